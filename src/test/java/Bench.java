@@ -121,6 +121,12 @@ final class Bench {
         return points;
     }
 
+    /** The first and the last round of a test: from 1 on so many, or as told on the command line. */
+    static int[] rounds(String[] args, int most) {
+        return args.length > 1 ? new int[] {Integer.parseInt(args[0]), Integer.parseInt(args[1])}
+                : new int[] {1, most};
+    }
+
     /** The closing line of a test. */
     static void close(String name) {
         System.out.println(name + ": " + asked + " answers, " + wrong + " not as due");
