@@ -1983,7 +1983,9 @@ public final class ShapeWorkshop {
                 if (isOnSegment(ax, ay, bx, by, x, y)) {
                     return RIM;
                 }
-                odd ^= isCrossedFrom(ax, ay, bx, by, x, y);
+                if (isCrossedFrom(ax, ay, bx, by, x, y)) {
+                    odd = !odd;
+                }
             }
             return odd ? INSIDE : OUTSIDE;
         }
@@ -2007,7 +2009,9 @@ public final class ShapeWorkshop {
                     turn = turnOf(0, 0, (long) segments.bx[k] - segments.ax[k], (long) segments.by[k] - segments.ay[k],
                             wayX, wayY);
                 }
-                odd ^= endAbove ? turn > 0 : turn < 0;
+                if (endAbove ? turn > 0 : turn < 0) {
+                    odd = !odd;
+                }
             }
             return odd;
         }
@@ -2222,26 +2226,29 @@ public final class ShapeWorkshop {
             return addHot(pixelAt(segments.ax[i], wayX, share, whole), pixelAt(segments.ay[i], wayY, share, whole));
         }
 
-        /**
-         * The pixel of start + way * share / whole, where 0 < share < whole: long division by the bits of the way,
-         * so that no number has more than 63 bits (whole is 2 * 10^18 at most).
-         */
+        /** The pixel of start + way * share / whole, where 0 < share < whole, and whole is 2 * 10^18 at most. */
         private static int pixelAt(int start, int way, long share, long whole) {
-            int size = Math.abs(way);
-            int value = 0;
+            if (whole <= 0) {
+                return start;
+            }
+            long size = Math.abs(way);
+            long value = 0;
             long rest = 0;
-            for (int bit = 30; bit >= 0; bit--) {
-                rest = 2 * rest + ((size >> bit & 1) == 1 ? share : 0);
-                value = 2 * value;
-                for (int turn = 0; turn < 2 && rest >= whole; turn++) {
-                    rest -= whole;
-                    value++;
+            if (share <= Integer.MAX_VALUE) {
+                value = size * share / whole;
+                rest = size * share % whole;
+            } else {
+                // long division by the bits of the way, so that no number has more than 63 bits
+                for (int bit = 30; bit >= 0; bit--) {
+                    rest = 2 * rest + ((size >> bit & 1) == 1 ? share : 0);
+                    long times = rest / whole;
+                    rest -= times * whole;
+                    value = 2 * value + times;
                 }
             }
-            if (way >= 0) {
-                return start + value + (2 * rest >= whole ? 1 : 0);
-            }
-            return start - value - (2 * rest > whole ? 1 : 0);
+            boolean half = way >= 0 ? 2 * rest >= whole : 2 * rest > whole;
+            long moved = half ? value + 1 : value;
+            return (int) (way >= 0 ? start + moved : start - moved);
         }
 
         private boolean sortHot() {
@@ -2675,7 +2682,9 @@ public final class ShapeWorkshop {
                 if (isOnSegment(ax, ay, bx, by, x, y)) {
                     return RIM;
                 }
-                odd ^= isCrossedFrom(ax, ay, bx, by, x, y);
+                if (isCrossedFrom(ax, ay, bx, by, x, y)) {
+                    odd = !odd;
+                }
             }
             return odd ? INSIDE : OUTSIDE;
         }
@@ -2788,15 +2797,21 @@ public final class ShapeWorkshop {
             for (int at = 0; at + 1 < shape.plans; at = shape.behind(at)) {
                 for (int row = 0; row < shape.rows(at); row++) {
                     int behind = from + shape.rowLength(at, row);
-                    ends ^= from < behind && shape.isAt(from, x, y) != shape.isAt(behind - 1, x, y);
+                    if (from < behind && shape.isAt(from, x, y) != shape.isAt(behind - 1, x, y)) {
+                        ends = !ends;
+                    }
                     for (int i = from; i < behind; i++) {
                         int next = i + 1 < behind ? i + 1 : from;
                         // lines do not lead back to their first point
                         if (shape.areLike(i, next) || next == from && !area) {
                             continue;
                         }
-                        held |= isOnSegment(shape.x[i], shape.y[i], shape.x[next], shape.y[next], x, y);
-                        odd ^= isCrossedFrom(shape.x[i], shape.y[i], shape.x[next], shape.y[next], x, y);
+                        if (isOnSegment(shape.x[i], shape.y[i], shape.x[next], shape.y[next], x, y)) {
+                            held = true;
+                        }
+                        if (isCrossedFrom(shape.x[i], shape.y[i], shape.x[next], shape.y[next], x, y)) {
+                            odd = !odd;
+                        }
                     }
                     from = behind;
                 }
@@ -3007,8 +3022,8 @@ public final class ShapeWorkshop {
         }
 
         /**
-         * How segment k lies to the edge of i that begins at a cut. The edge's left side is told by a place a bit behind
-         * the cut, and by less than that to the left: each sign that is 0 for one is looked up for the next.
+         * How segment k lies to the edge of i that begins at a cut. The edge's left side is told by a place a bit
+         * behind the cut, and by less than that to the left: each sign that is 0 for one is looked up for the next.
          */
         private void countSegment(int i, long itsShare, long itsWhole, int k) {
             int owner = segments.mark[k];
@@ -3465,7 +3480,9 @@ public final class ShapeWorkshop {
             if (last < first) {
                 return;
             }
-            Arrays.fill(stays, first, last + 1, false);
+            for (int i = first; i <= last; i++) {
+                stays[i] = false;
+            }
             stays[first] = true;
             stays[last] = true;
             int present = first;

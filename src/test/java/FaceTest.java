@@ -67,6 +67,18 @@ public final class FaceTest {
             Bench.holds("the name of private " + method.getName(),
                     !Modifier.isPrivate(method.getModifiers()) || !names.contains(method.getName()));
         }
+        for (Class<?> inner : type.getDeclaredClasses()) {
+            Bench.holds(inner.getName() + " is static and private",
+                    Modifier.isStatic(inner.getModifiers()) && Modifier.isPrivate(inner.getModifiers()));
+            for (Method method : inner.getDeclaredMethods()) {
+                Bench.holds("the name of inner " + method.getName(), !names.contains(method.getName()));
+            }
+            int fields = 0;
+            for (Field field : inner.getDeclaredFields()) {
+                fields += Modifier.isStatic(field.getModifiers()) ? 0 : 1;
+            }
+            Bench.holds(inner.getName() + " has twenty fields at most", fields <= 20);
+        }
         int constants = 0;
         for (Field field : type.getDeclaredFields()) {
             if (!Modifier.isPrivate(field.getModifiers())) {

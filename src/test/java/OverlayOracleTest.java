@@ -18,11 +18,19 @@ public final class OverlayOracleTest {
             boolean near = dice.below(3) == 0;
             int size = near ? 2 + dice.below(4) : 3 + dice.below(12);
             Shapes.Spread spread = Shapes.Spread.thrown(dice, size, 500000000);
-            Told one = Shapes.area(dice, spread, size, dice.below(2) == 0);
+            Told one = dice.below(60) == 0 ? tangle(dice, spread, size)
+                    : Shapes.area(dice, spread, size, dice.below(2) == 0);
             Told two = dice.below(15) == 0 ? one : Shapes.area(dice, spread, size, dice.below(2) == 0);
             compare(round, one, two);
         }
         Bench.close("OverlayOracleTest");
+    }
+
+    /** Many points in a narrow space. */
+    private static Told tangle(Bench.Dice dice, Shapes.Spread spread, int size) {
+        Told told = new Told(3);
+        told.rows.add(Shapes.row(dice, spread, size, 20 + dice.below(30), true));
+        return told;
     }
 
     private static void compare(int round, Told one, Told two) {
