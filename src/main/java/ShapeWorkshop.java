@@ -2501,14 +2501,15 @@ public final class ShapeWorkshop {
         }
 
         private void listIncident() {
-            Arrays.fill(begin, 0);
+            int behind = snapped.hot + 2;
+            Arrays.fill(begin, 0, behind, 0);
             for (int piece = 0; piece < snapped.pieces; piece++) {
                 if (isBoundary[piece]) {
                     begin[snapped.pieceFrom[piece] + 2]++;
                     begin[snapped.pieceTo[piece] + 2]++;
                 }
             }
-            for (int h = 2; h < begin.length; h++) {
+            for (int h = 2; h < behind; h++) {
                 begin[h] += begin[h - 1];
             }
             for (int piece = 0; piece < snapped.pieces; piece++) {
@@ -2536,7 +2537,7 @@ public final class ShapeWorkshop {
         private boolean traceRings() {
             rings = 0;
             corners = 0;
-            Arrays.fill(onPath, 0);
+            Arrays.fill(onPath, 0, snapped.hot, 0);
             for (int piece = 0; piece < snapped.pieces; piece++) {
                 // a piece that was gone is no boundary any more
                 if (isBoundary[piece] && !trace(piece)) {
@@ -3213,7 +3214,7 @@ public final class ShapeWorkshop {
         }
 
         private void numberPlaces(Shape shape) {
-            Arrays.fill(numberOf, NONE);
+            Arrays.fill(numberOf, 0, places, NONE);
             int number = 0;
             for (int i = 0; i < shape.points; i++) {
                 int place = placeAt(keyOf(shape.x[i], shape.y[i]));
@@ -3298,7 +3299,7 @@ public final class ShapeWorkshop {
             if (places > MESHED) {
                 return false;
             }
-            Arrays.fill(told, 0);
+            Arrays.fill(told, 0, places * places / 64 + 1, 0);
             ways = 0;
             pushWay(0, firstNeighbour());
             // each way comes once, and there are fewer than of places with places
@@ -3343,12 +3344,12 @@ public final class ShapeWorkshop {
         }
 
         private boolean isTold(int from, int to) {
-            int bit = from * MESHED + to;
+            int bit = from * places + to;
             return (told[bit >> 6] >> (bit & 63) & 1) != 0;
         }
 
         private void setTold(int from, int to) {
-            int bit = from * MESHED + to;
+            int bit = from * places + to;
             told[bit >> 6] |= 1L << (bit & 63);
         }
 
@@ -3635,6 +3636,10 @@ public final class ShapeWorkshop {
             Arrays.fill(limbs[to], 0, size, 0);
             for (int i = 0; i < used[one]; i++) {
                 long factor = limbAt(one, i);
+                // most numbers have few limbs that are not 0
+                if (factor == 0) {
+                    continue;
+                }
                 long carry = 0;
                 for (int k = 0; k <= used[two] && i + k < size; k++) {
                     long sum = factor * limbAt(two, k) + (limbs[to][i + k] & LIMB) + carry;

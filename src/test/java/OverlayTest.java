@@ -141,6 +141,7 @@ public final class OverlayTest {
         Bench.due("slot to stays", shop.plan(9, 1), 1);
         Bench.put(shop, 4, saw(1024).replace("))", "), (5 5, 5 5))"));
         Bench.outcomeDue("one without length counts", () -> shop.overlay(0, 0, 4, 9), Bench.TOO_MUCH);
+        Bench.outcomeDue("so it does before others", () -> shop.overlay(0, 4, 0, 9), Bench.TOO_MUCH);
     }
 
     /** Bars: so many boxes beside one another, standing or lying, each of four segments. */

@@ -20,6 +20,11 @@ public final class RelateOracleTest {
 
     private static void compare(int round, Told one, Told two) {
         ShapeWorkshop shop = Bench.with(one.words(), two.words());
+        if (isTooMuch(one, two)) {
+            Bench.outcomeDue("too much " + round, () -> shop.relate(0, 1), Bench.TOO_MUCH);
+            Bench.outcomeDue("too much " + round, () -> shop.is(round % 9, 0, 1) ? 1 : 0, Bench.TOO_MUCH);
+            return;
+        }
         int[] matrix = matrix(one, two);
         int value = 0;
         for (int dimension : matrix) {
@@ -32,6 +37,18 @@ public final class RelateOracleTest {
         for (int what = 0; what < 9; what++) {
             Bench.due("is " + what + " " + told, shop.is(what, 0, 1), lieSo(what, matrix, first[0], second[0]));
         }
+    }
+
+    private static boolean isTooMuch(Told one, Told two) {
+        List<Plane.Segment> all = segments(one, 0);
+        all.addAll(segments(two, 1));
+        int pairs = 0;
+        for (int i = 0; i < all.size(); i++) {
+            for (int j = i + 1; j < all.size(); j++) {
+                pairs += all.get(i).common(all.get(j)).isEmpty() ? 0 : 1;
+            }
+        }
+        return all.size() > 256 || pairs > 1024;
     }
 
     private static boolean lieSo(int what, int[] m, int d1, int d2) {
