@@ -3366,7 +3366,7 @@ public final class ShapeWorkshop {
                 if (inside > 0) {
                     roundSize = 2;
                 }
-                if (inside >= 0) {
+                if (inside >= 0 && roundSize < MESHED) {
                     insertInRound(i);
                 }
             }
