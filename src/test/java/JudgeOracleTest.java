@@ -13,7 +13,7 @@ public final class JudgeOracleTest {
         int[] rounds = Bench.rounds(args, 6000);
         for (int round = rounds[0]; round <= rounds[1]; round++) {
             Bench.Dice dice = new Bench.Dice(round + 77L);
-            int size = 2 + dice.below(7);
+            int size = 2 + dice.below(9);
             Shapes.Spread spread = Shapes.Spread.thrown(dice, size, 1000000000);
             Told told = thrown(dice, spread, size, 0);
             ShapeWorkshop shop = Bench.with(told.words());
@@ -37,6 +37,10 @@ public final class JudgeOracleTest {
 
     private static Told thrown(Bench.Dice dice, Shapes.Spread spread, int size, int depth) {
         int way = dice.below(depth < 2 ? 12 : 9);
+        int round = dice.below(8);
+        if (round < 3) {
+            return round == 0 ? nested(dice, spread, size) : inscribed(dice, spread, size);
+        }
         if (way < 4) {
             return holed(dice, spread, size, dice.below(5));
         }
@@ -77,6 +81,82 @@ public final class JudgeOracleTest {
             told.rows.set(i, withTwice(dice, told.rows.get(i)));
         }
         return told;
+    }
+
+    /** A star round a place, and rings whose corners are all of the star's, as its holes, or as other parts. */
+    private static Told inscribed(Bench.Dice dice, Shapes.Spread spread, int size) {
+        List<int[]> around = new ArrayList<>();
+        int n = 5 + dice.below(6);
+        for (int i = 0; i < n; i++) {
+            around.add(new int[] {dice.below(size + 1), dice.below(size + 1)});
+        }
+        double middle = size / 2.0 + 0.1;
+        around.sort((p, q) -> Double.compare(Math.atan2(p[1] - middle, p[0] - middle),
+                Math.atan2(q[1] - middle, q[0] - middle)));
+        Told star = new Told(3);
+        star.rows.add(closed(around, spread));
+        Told parts = new Told(6).part(star);
+        boolean holes = dice.below(2) == 0;
+        int rings = 1 + dice.below(2);
+        for (int i = 0; i < rings; i++) {
+            List<int[]> some = new ArrayList<>();
+            int first = dice.below(n);
+            for (int k = 0; k < n; k++) {
+                if (dice.below(2) == 0 || some.size() + n - k <= 3) {
+                    some.add(around.get((first + k) % n));
+                }
+            }
+            if (dice.below(2) == 0) {
+                java.util.Collections.reverse(some);
+            }
+            int[][] ring = closed(some, spread);
+            if (holes) {
+                star.rows.add(ring);
+            } else {
+                Told part = new Told(3);
+                part.rows.add(ring);
+                parts.parts.add(dice.below(parts.parts.size() + 1), part);
+            }
+        }
+        return holes ? star : parts;
+    }
+
+    /** Boxes and rhombs in one another, that touch where a corner of one is in the middle of another one's side. */
+    private static Told nested(Bench.Dice dice, Shapes.Spread spread, int size) {
+        Told polygon = new Told(3);
+        Told parts = new Told(6);
+        int half = size / 2;
+        int count = 2 + dice.below(3);
+        for (int i = 0; i < count; i++) {
+            int r = i == 0 && dice.below(3) > 0 ? half : 1 + dice.below(half);
+            int x = half + (r < half && dice.below(3) == 0 ? dice.below(3) - 1 : 0);
+            List<int[]> corners = new ArrayList<>();
+            boolean box = dice.below(2) == 0;
+            int first = dice.below(4);
+            for (int k = 0; k < 4; k++) {
+                int turn = (first + k) % 4;
+                int dx = box ? (turn == 0 || turn == 3 ? -r : r) : turn == 0 ? -r : turn == 2 ? r : 0;
+                int dy = box ? (turn < 2 ? -r : r) : turn == 1 ? -r : turn == 3 ? r : 0;
+                corners.add(new int[] {x + dx, half + dy});
+            }
+            if (dice.below(2) == 0) {
+                java.util.Collections.reverse(corners);
+            }
+            polygon.rows.add(closed(corners, spread));
+            Told part = new Told(3);
+            part.rows.add(closed(corners, spread));
+            parts.parts.add(part);
+        }
+        return dice.below(3) > 0 ? polygon : parts;
+    }
+
+    private static int[][] closed(List<int[]> corners, Shapes.Spread spread) {
+        int[][] row = new int[corners.size() + 1][];
+        for (int i = 0; i < row.length; i++) {
+            int[] p = corners.get(i % corners.size());
+            row[i] = spread.at(p[0], p[1]);
+        }
+        return row;
     }
 
     private static int[][] withTwice(Bench.Dice dice, int[][] row) {
