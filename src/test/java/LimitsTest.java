@@ -10,6 +10,7 @@ public final class LimitsTest {
     public static void main(String[] args) {
         farthestOverlays();
         largestResults();
+        mostCornersOfOneRing();
         mostTriangles();
         overlaysOfNothing();
         overlaysOntoThemselves();
@@ -83,6 +84,26 @@ public final class LimitsTest {
         Bench.due("1025 points", shop.count(9, 1), 1025);
         Bench.outcomeDue("none of both", () -> shop.overlay(0, 0, 2, 9), "0");
         Bench.due("it keeps its room", Bench.words(shop, 9), "MULTIPOLYGON EMPTY");
+    }
+
+    /** A saw of so many teeth that stand out of a box: each one makes three corners of the one ring. */
+    private static void mostCornersOfOneRing() {
+        String[] boxes = {"((-10 -10,9000 -10,9000 100,-10 100,-10 -10))",
+            "((-10 -10,9000 -10,9001 0,9000 100,-10 100,-10 -10))",
+            "((-10 -10,9000 -10,9001 0,9000 100,-10 100,-11 0,-10 -10))"};
+        for (int more = 0; more < 3; more++) {
+            for (int teeth = 680; teeth < 1022; teeth += teeth < 683 ? 1 : 169) {
+                StringBuilder saw = new StringBuilder("((0 0");
+                for (int i = 0; i < teeth; i++) {
+                    saw.append(",").append(4 * i + 2).append(" 200,").append(4 * i + 4).append(" 0");
+                }
+                saw.append(",").append(4 * teeth).append(" -5,0 -5,0 0))");
+                ShapeWorkshop shop = Bench.with("POLYGON " + boxes[more], "POLYGON " + saw, KEPT);
+                int points = 3 * teeth + 4 + more + 1;
+                Bench.outcomeDue(points + " points", () -> shop.overlay(1, 0, 1, 2), points > 2048 ? Bench.TOO_MUCH : 1);
+                Bench.due("their number", shop.count(2, 1), points > 2048 ? 1 : points);
+            }
+        }
     }
 
     private static String triangles(int from, int to) {
