@@ -21,6 +21,7 @@ public final class LimitsTest {
         lengthlessParts();
         hullsOfMany();
         trianglesOfMany();
+        trianglesAgain();
         simplerByMuch();
         areasThatWrap();
         boxesAtTheEdge();
@@ -100,7 +101,8 @@ public final class LimitsTest {
                 saw.append(",").append(4 * teeth).append(" -5,0 -5,0 0))");
                 ShapeWorkshop shop = Bench.with("POLYGON " + boxes[more], "POLYGON " + saw, KEPT);
                 int points = 3 * teeth + 4 + more + 1;
-                Bench.outcomeDue(points + " points", () -> shop.overlay(1, 0, 1, 2), points > 2048 ? Bench.TOO_MUCH : 1);
+                Bench.outcomeDue(points + " points", () -> shop.overlay(1, 0, 1, 2),
+                        points > 2048 ? Bench.TOO_MUCH : "1");
                 Bench.due("their number", shop.count(2, 1), points > 2048 ? 1 : points);
             }
         }
@@ -326,7 +328,8 @@ public final class LimitsTest {
     }
 
     private static void hullsOfMany() {
-        ShapeWorkshop shop = Bench.with(parabola(1023, 0), parabola(1024, 0), parabola(1025, 0), parabola(1024, 1024), KEPT);
+        ShapeWorkshop shop = Bench.with(parabola(1023, 0), parabola(1024, 0), parabola(1025, 0),
+                parabola(1024, 1024), KEPT);
         Bench.due("1023 corners", shop.hull(0, 9), 1023);
         Bench.due("1024 corners", shop.hull(1, 9), 1024);
         Bench.due("and the first one once more", shop.count(9, 1), 1025);
@@ -369,6 +372,30 @@ public final class LimitsTest {
         Bench.outcomeDue("triangles of " + inner + " in " + corners, () -> shop.triangles(0, 1), want);
         if (want.equals(Bench.TOO_MUCH)) {
             Bench.due("stays", Bench.words(shop, 1), KEPT);
+        }
+    }
+
+    /** What was refused before, or told, leaves nothing behind. */
+    private static void trianglesAgain() {
+        ShapeWorkshop shop = Bench.with(parabola(514, 0), parabola(515, 0), "MULTIPOINT (0 0,4 0,4 4,0 4,1 2)",
+                "LINESTRING (0 0,1 1,2 2)", parabola(300, 0));
+        StringBuilder grid = new StringBuilder("LINESTRING (0 0");
+        for (int i = 1; i < 500; i++) {
+            grid.append(",").append(i % 25).append(' ').append(i / 25);
+        }
+        Bench.put(shop, 5, grid + ")");
+        for (int i = 0; i < 4; i++) {
+            Bench.outcomeDue("912 triangles again", () -> shop.triangles(5, 9), Bench.TOO_MUCH);
+            Bench.due("298 triangles behind it", shop.triangles(4, 9), 298);
+            Bench.outcomeDue("912 triangles again", () -> shop.triangles(5, 9), Bench.TOO_MUCH);
+            Bench.outcomeDue("513 triangles again", () -> shop.triangles(1, 9), Bench.TOO_MUCH);
+            Bench.due("four triangles again", shop.triangles(2, 9), 4);
+            Bench.due("four triangles again", Bench.words(shop, 9), "MULTIPOLYGON (((0 0, 4 0, 1 2, 0 0)), "
+                    + "((0 0, 1 2, 0 4, 0 0)), ((4 0, 4 4, 1 2, 4 0)), ((4 4, 0 4, 1 2, 4 4)))");
+            Bench.due("none again", shop.triangles(3, 9), 0);
+            Bench.due("298 triangles again", shop.triangles(4, 9), 298);
+            Bench.due("512 triangles again", shop.triangles(0, 9), 512);
+            Bench.due("none again", shop.triangles(3, 9), 0);
         }
     }
 

@@ -386,6 +386,8 @@ public final class RefusedCallsTest {
         Bench.due("others stay", Bench.words(few, 1), "LINESTRING (3 4, 5 6)");
         Bench.due("good again", Bench.read(few, 2, "POINT (5 5)"), "1");
         Bench.due("no fault any more", few.fault(0) + "@" + few.fault(1), "0@0");
+        faultsGo(few);
+        few.writeWords(1);
         few.feed(0, 0, 0, 0, 0);
         few.again();
         Bench.due("again instead of the tape", few.count(0, 2), 21);
@@ -393,5 +395,27 @@ public final class RefusedCallsTest {
         Bench.outcomeDue("something behind", () -> few.readWords(31), Bench.ARGUMENT);
         Bench.due("behind", few.fault(0) + "@" + few.fault(1), "8@21");
         Bench.due("none came of it", few.count(31, 0), 0);
+    }
+
+    /** A fault in words or bytes is told until something is read, words or bytes. */
+    private static void faultsGo(ShapeWorkshop few) {
+        for (int round = 0; round < 4; round++) {
+            boolean wordsFirst = round % 2 == 0;
+            few.feed(wordsFirst ? 0x20200000 : 0, 0, 0, 0, 0);
+            Bench.outcomeDue("a fault", () -> wordsFirst ? few.readWords(30) : few.readBytes(30), Bench.ARGUMENT);
+            Bench.due("a fault", few.fault(0) + "@" + few.fault(1), wordsFirst ? "1@2" : "2@1");
+            boolean words = round < 2;
+            if (words) {
+                few.writeWords(1);
+            } else {
+                few.writeBytes(1, round % 2);
+            }
+            few.again();
+            Bench.due("it stays till something is read", few.fault(0) + "@" + few.fault(1), wordsFirst ? "1@2" : "2@1");
+            Bench.due("good", words ? few.readWords(30) : few.readBytes(30), 2);
+            Bench.due("no fault", few.fault(0) + "@" + few.fault(1), "0@0");
+            Bench.due("as it was", few.same(1, 30), true);
+            few.drop(30);
+        }
     }
 }

@@ -2,8 +2,8 @@ import java.util.ArrayList;
 import java.util.List;
 
 /**
- * Promises 17 to 19 for shapes whose sides lie along a grid, over one another, in any direction: each place of the grid,
- * each side and each field of it is looked at. Then rows as long as they may be, and what was related before.
+ * Promises 17 to 19 for shapes whose sides lie along a grid, over one another, in any direction: each place, side and
+ * field of the grid is looked at. Then rows as long as they may be, and what was related before.
  */
 public final class RelateGridTest {
     private static final int SIZE = 4;
@@ -28,6 +28,9 @@ public final class RelateGridTest {
         ShapeWorkshop shop = Bench.with(moved(one, x, y).words(), moved(two, x, y).words());
         Bench.due("relate " + round + " " + one.words() + " / " + two.words() + " at " + x + " " + y,
                 Integer.toString(shop.relate(0, 1), 4), Integer.toString(matrix(one, two), 4));
+        int what = dice.below(9);
+        Bench.due("is " + what + " round " + round + " " + one.words() + " / " + two.words(), shop.is(what, 0, 1),
+                lieSo(what, matrix(one, two), matrix(one, one) >> 16, matrix(two, two) >> 16));
         for (int p = 0; p <= SIZE; p++) {
             for (int q = 0; q <= SIZE; q++) {
                 Bench.due("locate " + round + " " + one.words() + " " + p + " " + q, shop.locate(0, p + x, q + y),
@@ -148,6 +151,23 @@ public final class RelateGridTest {
 
     private static int is(int[] p, int x, int y) {
         return 2 * p[0] == x && 2 * p[1] == y ? 1 : 0;
+    }
+
+    /** By the matrix, and the dimensions of both plus 1. */
+    private static boolean lieSo(int what, int matrix, int first, int second) {
+        boolean[] has = new boolean[9];
+        for (int at = 0; at < 9; at++) {
+            has[at] = (matrix >> 16 - 2 * at & 3) != 0;
+        }
+        boolean within = !has[2] && !has[5];
+        boolean contains = !has[6] && !has[7];
+        boolean meet = has[0] || has[1] || has[3] || has[4];
+        boolean[] are = {first == 0 && second == 0 || has[0] && within && contains, !meet, meet && !has[0],
+            first < second && has[0] && has[2] || first > second && has[0] && has[6]
+                || first == 2 && second == 2 && matrix >> 16 == 1, has[0] && within, has[0] && contains,
+            first == second && first > 0 && matrix >> 16 == first && has[2] && has[6], meet && within,
+            meet && contains};
+        return are[what];
     }
 
     private static int matrix(Told one, Told two) {

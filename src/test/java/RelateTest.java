@@ -97,6 +97,14 @@ public final class RelateTest {
         areDue("POINT EMPTY", "POINT (1 1)", "-1-------");
         areDue("POLYGON ((0 0, 10 0, 0 0))", "POLYGON ((0 0, 5 5, 0 0))", "0-2------");
         areDue("POLYGON ((0 0, 10 0, 0 0))", SQUARE, "--2----7-");
+        // a line whose inside is all on the rim of an area that has no inside, and the other way round
+        areDue("LINESTRING (0 0, 5 0)", "POLYGON ((0 0, 10 0, 0 0))", "--2----7-");
+        areDue("POLYGON ((0 0, 10 0, 0 0))", "LINESTRING (0 0, 5 0)", "--2-----8");
+        areDue("LINESTRING (0 0, 10 0, 0 0)", "POLYGON ((0 0, 10 0, 0 0))", "--2----78");
+        areDue("POINT (5 0)", "POLYGON ((0 0, 10 0, 0 0))", "--2----7-");
+        areDue("POINT (5 0)", "LINESTRING (5 0, 9 0)", "--2----7-");
+        areDue("POINT (6 0)", "LINESTRING (5 0, 9 0)", "----4--7-");
+        areDue("LINESTRING (5 5, 5 5)", "POLYGON ((0 0, 10 0, 0 0))", "01-------");
     }
 
     private static void placeDue(String text, int x, int y, int want) {

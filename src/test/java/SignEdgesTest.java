@@ -1,4 +1,4 @@
-/** Promises 31 to 33, the edges: points at first, the least and the greatest numbers, and signs by the least there is. */
+/** Promises 31 to 33, the edges: points at first, the least and the greatest numbers, signs by the least there is. */
 public final class SignEdgesTest {
     private static final long MINUS = Long.MIN_VALUE;
     private static final long ONE = 0x3FF0000000000000L;
@@ -120,6 +120,17 @@ public final class SignEdgesTest {
         sideDue(new long[] {0, 0, LEAST_NORMAL - 1, LEAST_NORMAL, LEAST_NORMAL, LEAST_NORMAL + 1}, -1);
         sideDue(new long[] {LEAST_NORMAL - 1, 0, LEAST_NORMAL, LEAST, LEAST_NORMAL + 1, LEAST + 1}, 0);
         sideDue(new long[] {0, 0, LEAST_NORMAL, LEAST_NORMAL, 2 * LEAST_NORMAL, 2 * LEAST_NORMAL}, 0);
+        for (int power = 0; power < 60; power++) {
+            // a half, once, twice and four times, whether E goes on or F does; and by the last bit there is
+            long once = power < 51 ? 2L << power : (long) (power - 50) << 52;
+            long half = power < 52 ? once >> 1 : once - LEAST_NORMAL;
+            long twice = power < 51 ? once << 1 : once + LEAST_NORMAL;
+            long fourTimes = power < 50 ? twice << 1 : twice + LEAST_NORMAL;
+            sideDue(new long[] {0, 0, half, once, twice, fourTimes}, 0);
+            sideDue(new long[] {0, 0, half, once, twice, fourTimes + 1}, 1);
+            sideDue(new long[] {0, 0, half, once + 1, twice, fourTimes}, -1);
+            sideDue(new long[] {half, half, once, once, fourTimes, fourTimes - 1}, -1);
+        }
         // by the last bit of numbers near 1, and of products that no 64 bits hold
         sideDue(new long[] {0, 0, ONE, ONE, ONE + 1, ONE + 1}, 0);
         sideDue(new long[] {0, 0, ONE, ONE, ONE + 1, ONE + 2}, 1);
