@@ -412,6 +412,14 @@ public final class LimitsTest {
         Bench.due("by the most there is", shop.simplify(0, 5, FAR), 2046);
         Bench.due("rings of one and two points", shop.simplify(2, 5, FAR), 0);
         Bench.due("stay", shop.same(2, 5), true);
+        // 2 to the power 20 wide, with 2 to the power 23 and one more high: squares that differ by a bit above 64
+        ShapeWorkshop high = Bench.with("LINESTRING (0 0,5 8388609,1048576 0)",
+                "LINESTRING (0 0,5 -8388609,1048576 0)");
+        for (int slot = 0; slot < 2; slot++) {
+            Bench.due("one unit less", high.simplify(slot, 5, 8388608), 0);
+            Bench.due("as far", high.simplify(slot, 5, 8388609), 1);
+            Bench.due("one unit more", high.simplify(slot, 5, 8388610), 1);
+        }
         for (int distance : new int[] {-1, FAR + 1, Integer.MIN_VALUE, Integer.MAX_VALUE}) {
             Bench.outcomeDue("distance " + distance, () -> shop.simplify(0, 1, distance), Bench.ARGUMENT);
         }

@@ -238,6 +238,11 @@ public final class RelateGridTest {
         relateDue(shop, 7, 4, "FF1F00102");
         Bench.put(shop, 7, lines(127, 0, 9).replace("((", "((0 5,-1 9),("));
         relateDue(shop, 4, 7, "FF1F00102");
+        // the last end of all, of either shape, in the other one's inside
+        Bench.put(shop, 10, lines(127, 0, 5).replace("))", "),(381 5,400 5))"));
+        Bench.put(shop, 11, lines(127, 0, 9).replace("))", "),(390 5,391 9))"));
+        relateDue(shop, 10, 11, "F01FF0102");
+        relateDue(shop, 11, 10, "FF10F0102");
         // what was related before leaves nothing behind
         Bench.put(shop, 8, "LINESTRING (700 0,701 0)");
         Bench.put(shop, 9, "LINESTRING (699 0,703 0)");
