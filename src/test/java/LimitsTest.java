@@ -384,6 +384,15 @@ public final class LimitsTest {
             grid.append(",").append(i % 25).append(' ').append(i / 25);
         }
         Bench.put(shop, 5, grid + ")");
+        // five places behind all others, with triangles of their own
+        String behind = parabola(245, 0).replace(")", ",90000 0,90004 0,90004 4,90000 4,90002 2)");
+        Bench.put(shop, 6, behind);
+        int count = shop.triangles(6, 10);
+        Bench.due("all that is within the hull", areaOfHull(shop, 6), shop.area(10));
+        for (int i = 0; i < 3; i++) {
+            Bench.due("triangles again", shop.triangles(6, 9), count);
+            Bench.due("triangles again", shop.same(9, 10), true);
+        }
         for (int i = 0; i < 4; i++) {
             Bench.outcomeDue("912 triangles again", () -> shop.triangles(5, 9), Bench.TOO_MUCH);
             Bench.due("298 triangles behind it", shop.triangles(4, 9), 298);
@@ -397,6 +406,11 @@ public final class LimitsTest {
             Bench.due("512 triangles again", shop.triangles(0, 9), 512);
             Bench.due("none again", shop.triangles(3, 9), 0);
         }
+    }
+
+    private static long areaOfHull(ShapeWorkshop shop, int slot) {
+        shop.hull(slot, 31);
+        return shop.area(31);
     }
 
     private static void simplerByMuch() {
